@@ -46,9 +46,20 @@ public final class FaultsTest {
         Due.is("only the first n count", 0, () -> x.army(6));
         Due.is("mud of it", 7, () -> x.count(5));
         Due.is("what lies behind them is gone", 0, () -> x.count(11));
+        cut(1, 7, "beats 41;", 7);
+        cut(2, 6, "beats 41;", 8);
+        cut(1, 5, "hearsx", 5);
         fault(1, 0, "\u00ff");
         fault(1, 6, "mud 7;\u0000");
         fault(1, 2, "  \u00e1man");
+    }
+
+    /** A text that ends within what the tape has. */
+    private static void cut(int kind, int place, String text, int n) {
+        NightMarch x = new NightMarch();
+        Due.tape(x, text);
+        Due.is("army of " + n + " of " + text, kind, () -> x.army(n));
+        Due.is("fault", place, x::fault);
     }
 
     private static void lines() {
@@ -74,6 +85,7 @@ public final class FaultsTest {
         fault(1, 5, "beatsE 8;");
         fault(1, 0, "beat 8;");
         fault(1, 0, "beatss 8;");
+        fault(1, 0, "beatsz 8;");
         fault(1, 0, ";");
         fault(1, 8, "beats 8;;");
         fault(1, 0, "4;");
@@ -191,6 +203,9 @@ public final class FaultsTest {
         fault(3, 6, "hears or;");
         fault(3, 6, "hears man;");
         fault(3, 6, "hears summ;");
+        fault(3, 6, "hears az;");
+        fault(1, 7, "hears  {;");
+        fault(1, 6, "hears `;");
         fault(3, 8, "hears 1+not 1;");
         fault(3, 8, "hears 1<not 1;");
         fault(3, 12, "hears 1 and or;");
@@ -213,6 +228,9 @@ public final class FaultsTest {
         heard(0, "not not 7=1");
         heard(0, "not 7");
         heard(15, "(not not 7)=1");
+        heard(15, "(1<2)=1");
+        heard(15, "(2=2)=1");
+        heard(15, "9999-9998");
         heard(15, "(2 and 3)=1");
         heard(15, "(0 or 0-5)=1");
         heard(15, "1 or 1 and 0");

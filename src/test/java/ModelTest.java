@@ -15,6 +15,12 @@ public final class ModelTest {
         "nextTo B", "alike B", "lost m", "mates m", "step", "chain m m n12", "most n40", "often n40 w1", "spoilt m",
         "reform m w1", "swap", "loudest", "run m", "rarest", "image", "restore",
     };
+    // So many ACTS that not all are kept, and images among them.
+    private static final String[] ACTS = {
+        "nights n20", "put m R", "put m R", "heel m b", "loud m n9", "change r r", "nights n3", "heel m b", "loud m n9",
+        "change r r", "nights n20", "put m R", "put m R", "heel m b", "loud m n9", "change r r", "undo", "undo", "undo",
+        "image", "restore", "count w14", "man m w3", "row r w2", "man m w3", "row r w2", "honour m w40", "see r n12 b ?",
+    };
     private static final int[] ODD = {-1, -2, -3, 0, 8, 12, 13, 41, 99, 4096, Integer.MIN_VALUE, Integer.MAX_VALUE, 1 << 31 | 1};
 
     private static Random random;
@@ -25,9 +31,13 @@ public final class ModelTest {
     private static int rows;
 
     public static void main(String[] args) throws Exception {
-        for (int seed = 1; seed <= 500; seed++) {
+        for (int seed = 1; seed <= 700; seed++) {
             random = new Random(seed);
-            run("seed " + seed, 60 + random.nextInt(120));
+            run("seed " + seed, CALLS, 60 + random.nextInt(120));
+        }
+        for (int seed = 1001; seed <= 1100; seed++) {
+            random = new Random(seed);
+            run("acts " + seed, ACTS, 400);
         }
         for (int seed = 1; seed <= 30000; seed++) {
             random = new Random(-seed);
@@ -38,19 +48,19 @@ public final class ModelTest {
         Due.end();
     }
 
-    private static void run(String label, int calls) throws Exception {
+    private static void run(String label, String[] some, int calls) throws Exception {
         real = new NightMarch();
         model = new PlainModel();
         StringBuilder told = new StringBuilder(label);
         learn();
         if (random.nextInt(10) > 0) {
-            told.append(' ').append(army(label, random.nextInt(6) / 5));
+            told.append(' ').append(army(label, random.nextInt(12) / 11));
         }
         for (int i = 0; i < calls; i++) {
-            if (random.nextInt(80) == 0) {
+            if (random.nextInt(some == ACTS ? 600 : 80) == 0) {
                 told.append(' ').append(army(label, random.nextInt(2)));
             }
-            String[] words = CALLS[random.nextInt(CALLS.length)].split(" ");
+            String[] words = some[random.nextInt(some.length)].split(" ");
             Object[] given = new Object[words.length - 1];
             for (int k = 0; k < given.length; k++) {
                 given[k] = argument(words[k + 1]);
@@ -181,9 +191,8 @@ public final class ModelTest {
 
     private static String text() {
         StringBuilder text = new StringBuilder();
-        int most = random.nextInt(3) == 0 ? 8 : 5;
-        int many = random.nextInt(10) == 0 ? random.nextInt(2) : 2 + random.nextInt(most - 1);
-        int told = 4 + (random.nextInt(4) == 0 ? random.nextInt(9) : random.nextInt(4));
+        int many = random.nextInt(20) == 0 ? random.nextInt(2) : 2 + random.nextInt(7);
+        int told = 4 + (random.nextInt(5) == 0 ? random.nextInt(9) : random.nextInt(3));
         boolean late = random.nextBoolean();
         String head = random.nextInt(6) == 0 ? "" : "beats " + told + ";";
         if (!late) {
@@ -208,7 +217,8 @@ public final class ModelTest {
             text.append(head);
         }
         if (random.nextInt(3) > 0) {
-            String rule = "hears " + expr(random.nextInt(5)) + ";";
+            String free = expr(random.nextInt(5));
+            String rule = "hears " + (random.nextBoolean() ? free : RULES[random.nextInt(RULES.length)]) + ";";
             if (text.length() + rule.length() <= 700) {
                 text.append(rule);
             }
@@ -242,18 +252,28 @@ public final class ModelTest {
     }
 
     private static final String[] VALUES = {"sum", "sum", "sum", "others", "mud", "mud", "beat", "many", "last"};
-    private static final String[] SIGNS = {"+", "-", "*", "/", "<", "=", "<", " and ", " or ", "-"};
+    private static final String[] SIGNS = {"+", "-", "*", "/"};
+    // Rules by which men are often heard as they tread, but not by each order of rows.
+    private static final String[] RULES = {
+        "mud<sum", "others<sum", "mud<sum-others/2", "mud<sum+others/3", "sum and not last", "mud<sum*2/many",
+        "sum-others and mud<sum", "not others and sum or last and mud<others",
+    };
 
     private static String expr(int depth) {
         if (depth == 0) {
             return random.nextInt(4) == 0 ? Integer.toString(random.nextInt(random.nextInt(4) == 0 ? 10000 : 10))
                 : VALUES[random.nextInt(VALUES.length)];
         }
-        switch (random.nextInt(7)) {
-            case 0: return "(" + expr(depth - 1) + ")";
-            case 1: return "not " + expr(depth - 1);
-            case 2: return "mud<sum";
-            default: return expr(depth - 1) + SIGNS[random.nextInt(SIGNS.length)] + expr(random.nextInt(depth));
+        String left = expr(depth - 1);
+        String right = expr(random.nextInt(depth));
+        switch (random.nextInt(8)) {
+            case 0: return "(" + left + ")";
+            case 1: return "(not " + left + ")";
+            case 2: return left + " and " + right;
+            case 3: return "(" + left + " or " + right + ")";
+            case 4: return "(" + left + "<" + right + ")";
+            case 5: return "(" + left + "=" + right + ")";
+            default: return left + SIGNS[random.nextInt(SIGNS.length)] + right;
         }
     }
 }

@@ -26,6 +26,7 @@ public final class PromisesTest {
         emptyRow();
         then();
         honourFirstMostOften();
+        once();
         mistakenUnsung();
         farNearest();
         apartTread();
@@ -240,6 +241,42 @@ public final class PromisesTest {
         x.undo();
         x.undo();
         Due.is("honour of 80 nights", 80, () -> x.man(2, 2));
+        undoBeyond();
+    }
+
+    /** More ACTS than are kept, of all kinds, so that each kept one has to be taken back as it was. */
+    private static void undoBeyond() {
+        NightMarch x = Due.of(THREE);
+        int[][] was = new int[47][];
+        for (int i = 0; i < 47; i++) {
+            was[i] = whole(x);
+            switch (i % 5) {
+                case 0: x.nights(1 + i % 3); break;
+                case 1: x.heel(i % 3, i % 4); break;
+                case 2: x.loud(i % 3, 1 + i % 9); break;
+                case 3: x.change(i % 3, (i + 1) % 3); break;
+                default: Due.isTrue("put", x.put(i % 3, (x.man(i % 3, 3) + 2) % 4 - 1) > -2);
+            }
+        }
+        x.image();
+        for (int round = 0; round < 2; round++) {
+            for (int i = 46; i >= 7; i--) {
+                Due.same("left", i - 7, x.undo());
+                Due.isTrue("act " + i + " undone", java.util.Arrays.equals(was[i], whole(x)));
+            }
+            Due.is("no more are kept", -1, x::undo);
+            Due.isTrue("restored", x.restore());
+            Due.is("all 40 of them", 40, () -> x.count(9));
+        }
+    }
+
+    private static int[] whole(NightMarch x) {
+        int[] all = new int[13];
+        for (int i = 0; i < 12; i++) {
+            all[i] = x.man(i / 4, i % 4);
+        }
+        all[12] = x.count(4);
+        return all;
     }
 
     private static void emptyRow() {
@@ -313,6 +350,21 @@ public final class PromisesTest {
         Due.is("nobody", 3, () -> y.often(3, 0));
     }
 
+    /** 5 is heard only in front of all, which is so in every seventh NIGHT, and in every eighth NIGHT. */
+    private static void once() {
+        NightMarch x = Due.of("man 4 1;man 8 1;man 16 1;man 32 1;man 3 1;man 1 1;man 64 1;row 0;row 1;row 2;row 3;row 4;"
+            + "row 5;row 6;slack 0;mud 1 0 0 0 0 0 0 0;hears sum and mud=1 and others=0;");
+        Due.is("first in 41 nights", -1, () -> x.first(5));
+        Due.is("unsung in 40", 32, () -> x.unsung(40) & 32);
+        Due.is("then in 40", 1, () -> x.then(0, 40, 0));
+        x.nights(1);
+        Due.is("first in 40 nights", 40, () -> x.first(5));
+        Due.is("unsung in 39", 32, () -> x.unsung(39) & 32);
+        Due.is("not in 40", 0, () -> x.unsung(40) & 32);
+        Due.is("honour in 39", 0, () -> x.honour(5, 39));
+        Due.is("honour in 40", 1, () -> x.honour(5, 40));
+    }
+
     private static void mistakenUnsung() {
         NightMarch x = Due.of(PAIR);
         Due.is("mistaken", 1, () -> x.mistaken(1));
@@ -343,6 +395,9 @@ public final class PromisesTest {
         Due.is("the nearest", 13, x::nearest);
         NightMarch y = Due.of("man 1 1;");
         Due.is("of one", -1, y::nearest);
+        NightMarch z = Due.of("beats 12;man 0 1;man 4095 1;");
+        Due.is("far by 12", 12, () -> z.far(1, 0));
+        Due.is("the nearest all the same", 1, z::nearest);
     }
 
     private static void apartTread() {
@@ -519,6 +574,13 @@ public final class PromisesTest {
         Due.is("loud stays", 2, () -> x.man(1, 1));
         NightMarch y = Due.of(PAIR);
         Due.is("neither", 0, () -> y.game(0, 1, 1));
+        String two = "beats 4;man 1 1;man 2 1;row 0;row 1;slack 0;mud 9 9 9 9 9 ";
+        NightMarch sixth = Due.of(two + "8;");
+        Due.is("stamping gains 1 in the sixth night: all rest", 4, () -> sixth.game(0, 1, 0));
+        Due.is("the first", 0, () -> sixth.game(0, 1, 1));
+        NightMarch seventh = Due.of(two + "9 8;");
+        Due.is("the seventh night doesn't count", 1, () -> seventh.game(0, 1, 0));
+        Due.is("neither", 0, () -> seventh.game(0, 1, 1));
         // Both are too still, and are heard only if the other one is not: who stamps alone gains 6 by 1.
         NightMarch z = Due.of("beats 4;man 1 1;man 2 1;row 0;row 1;mud 2;slack 0;hears mud<sum-others*9;");
         Due.is("both stamp", 11, () -> z.game(0, 1, 1));
@@ -625,6 +687,9 @@ public final class PromisesTest {
         NightMarch z = Due.of("beats 4;man 8 1;man 15 1;row 1;slack 0;hears beat=3;");
         Due.is("none", -1, () -> z.reform(1, 0));
         Due.is("none", -1, () -> z.reform(1, 1));
+        NightMarch all = Due.of("beats 12;man 0 1;row 0;slack 0;hears 1;");
+        Due.is("every beat", 12, () -> all.reform(0, 0));
+        Due.is("all beats", 4095, () -> all.reform(0, 1));
     }
 
     private static void swapLoudest() {
