@@ -14,17 +14,6 @@ public final class FaultsTest {
         Due.end();
     }
 
-    private static void fault(int kind, int place, String text) {
-        NightMarch x = new NightMarch();
-        Due.same("army of " + text, kind, Due.army(x, text));
-        Due.same("fault of " + text, place, x.fault());
-        Due.same("status of " + text, kind == 0 ? 0 : 1, x.count(12));
-    }
-
-    private static void good(String text) {
-        fault(0, -1, text);
-    }
-
     private static void tape() {
         NightMarch x = new NightMarch();
         Due.is("no fault yet", -1, x::fault);
@@ -49,9 +38,9 @@ public final class FaultsTest {
         cut(1, 7, "beats 41;", 7);
         cut(2, 6, "beats 41;", 8);
         cut(1, 5, "hearsx", 5);
-        fault(1, 0, "\u00ff");
-        fault(1, 6, "mud 7;\u0000");
-        fault(1, 2, "  \u00e1man");
+        Due.fault(1, 0, "\u00ff");
+        Due.fault(1, 6, "mud 7;\u0000");
+        Due.fault(1, 2, "  \u00e1man");
     }
 
     /** A text that ends within what the tape has. */
@@ -63,57 +52,57 @@ public final class FaultsTest {
     }
 
     private static void lines() {
-        good("");
-        good(" \n \n");
-        good("beats 4;");
-        good("beats 12;");
-        good("beats8;");
-        good("\nbeats\n0008\n;\n");
-        fault(2, 6, "beats 3;");
-        fault(2, 6, "beats 13;");
-        fault(2, 6, "beats 00008;");
-        fault(2, 6, "beats 99999999999999999999;");
-        fault(1, 5, "beats");
-        fault(1, 5, "beats;");
-        fault(1, 7, "beats 8");
-        fault(1, 9, "beats 8  ");
-        fault(1, 8, "beats 8 8;");
-        fault(1, 8, "beats 8 88888;");
-        fault(1, 6, "beats man;");
-        fault(1, 0, "Beats 8;");
-        fault(1, 0, "bEats 8;");
-        fault(1, 5, "beatsE 8;");
-        fault(1, 0, "beat 8;");
-        fault(1, 0, "beatss 8;");
-        fault(1, 0, "beatsz 8;");
-        fault(1, 0, ";");
-        fault(1, 8, "beats 8;;");
-        fault(1, 0, "4;");
-        fault(1, 0, "99999;");
-        fault(1, 0, "sum;");
-        fault(1, 0, "(");
-        fault(1, 5, "beats\t8;");
-        fault(5, 8, "beats 8;beats 3;");
-        fault(5, 9, "beats 8; beats");
+        Due.good("");
+        Due.good(" \n \n");
+        Due.good("beats 4;");
+        Due.good("beats 12;");
+        Due.good("beats8;");
+        Due.good("\nbeats\n0008\n;\n");
+        Due.fault(2, 6, "beats 3;");
+        Due.fault(2, 6, "beats 13;");
+        Due.fault(2, 6, "beats 00008;");
+        Due.fault(2, 6, "beats 99999999999999999999;");
+        Due.fault(1, 5, "beats");
+        Due.fault(1, 5, "beats;");
+        Due.fault(1, 7, "beats 8");
+        Due.fault(1, 9, "beats 8  ");
+        Due.fault(1, 8, "beats 8 8;");
+        Due.fault(1, 8, "beats 8 88888;");
+        Due.fault(1, 6, "beats man;");
+        Due.fault(1, 0, "Beats 8;");
+        Due.fault(1, 0, "bEats 8;");
+        Due.fault(1, 5, "beatsE 8;");
+        Due.fault(1, 0, "beat 8;");
+        Due.fault(1, 0, "beatss 8;");
+        Due.fault(1, 0, "beatsz 8;");
+        Due.fault(1, 0, ";");
+        Due.fault(1, 8, "beats 8;;");
+        Due.fault(1, 0, "4;");
+        Due.fault(1, 0, "99999;");
+        Due.fault(1, 0, "sum;");
+        Due.fault(1, 0, "(");
+        Due.fault(1, 5, "beats\t8;");
+        Due.fault(5, 8, "beats 8;beats 3;");
+        Due.fault(5, 9, "beats 8; beats");
     }
 
     private static void men() {
-        good("man 0 1;");
-        good("man 4095 9;");
-        good(FOUR + FOUR);
-        fault(2, 4, "man 4096 1;");
-        fault(2, 4, "man 4096 0;");
-        fault(2, 6, "man 0 0;");
-        fault(2, 6, "man 0 10;");
-        fault(2, 6, "man 0 00001;");
-        fault(1, 5, "man 0;");
-        fault(1, 8, "man 0 1 1;");
-        fault(1, 4, "man man 1;");
-        fault(1, 7, "man 0 1");
-        fault(1, 4, "man -1 1;");
-        fault(2, 64, FOUR + FOUR + "man");
-        fault(2, 64, FOUR + FOUR + "man 0 1;");
-        fault(1, 64, FOUR + FOUR + "men");
+        Due.good("man 0 1;");
+        Due.good("man 4095 9;");
+        Due.good(FOUR + FOUR);
+        Due.fault(2, 4, "man 4096 1;");
+        Due.fault(2, 4, "man 4096 0;");
+        Due.fault(2, 6, "man 0 0;");
+        Due.fault(2, 6, "man 0 10;");
+        Due.fault(2, 6, "man 0 00001;");
+        Due.fault(1, 5, "man 0;");
+        Due.fault(1, 8, "man 0 1 1;");
+        Due.fault(1, 4, "man man 1;");
+        Due.fault(1, 7, "man 0 1");
+        Due.fault(1, 4, "man -1 1;");
+        Due.fault(2, 64, FOUR + FOUR + "man");
+        Due.fault(2, 64, FOUR + FOUR + "man 0 1;");
+        Due.fault(1, 64, FOUR + FOUR + "men");
         NightMarch x = Due.of("man 4095 1;man 256 1;man 255 1;beats 5;");
         Due.is("bits beyond BEATS are none", 31, () -> x.man(0, 0));
         Due.is("bits beyond BEATS are none", 0, () -> x.man(1, 0));
@@ -123,46 +112,46 @@ public final class FaultsTest {
     }
 
     private static void rows() {
-        good(FOUR + "row 0 1 2 3;");
-        good(FOUR + "row 3;row 1 0;");
-        fault(1, 3, "row;");
-        fault(1, 3, "row");
-        fault(1, 4, "row x;");
-        fault(3, 4, "row 0;");
-        fault(3, 4, "row 0;man 0 1;");
-        fault(3, 36, FOUR + "row 4;");
-        fault(3, 36, FOUR + "row 9999;");
-        fault(2, 36, FOUR + "row 10000;");
-        fault(2, 36, FOUR + "row 00000;");
-        fault(4, 38, FOUR + "row 0 0;");
-        fault(4, 42, FOUR + "row 0;row 0;");
-        fault(4, 44, FOUR + "row 0;row 1 0 9;");
-        fault(2, 44, FOUR + "row 0 1 2 3 3;");
-        fault(2, 44, FOUR + "row 0 1 2 3 9;");
-        fault(1, 44, FOUR + "row 0 1 2 3 x;");
-        fault(1, 37, FOUR + "row 0");
+        Due.good(FOUR + "row 0 1 2 3;");
+        Due.good(FOUR + "row 3;row 1 0;");
+        Due.fault(1, 3, "row;");
+        Due.fault(1, 3, "row");
+        Due.fault(1, 4, "row x;");
+        Due.fault(3, 4, "row 0;");
+        Due.fault(3, 4, "row 0;man 0 1;");
+        Due.fault(3, 36, FOUR + "row 4;");
+        Due.fault(3, 36, FOUR + "row 9999;");
+        Due.fault(2, 36, FOUR + "row 10000;");
+        Due.fault(2, 36, FOUR + "row 00000;");
+        Due.fault(4, 38, FOUR + "row 0 0;");
+        Due.fault(4, 42, FOUR + "row 0;row 0;");
+        Due.fault(4, 44, FOUR + "row 0;row 1 0 9;");
+        Due.fault(2, 44, FOUR + "row 0 1 2 3 3;");
+        Due.fault(2, 44, FOUR + "row 0 1 2 3 9;");
+        Due.fault(1, 44, FOUR + "row 0 1 2 3 x;");
+        Due.fault(1, 37, FOUR + "row 0");
         String eight = FOUR + FOUR + "row 0;row 1;row 2;row 3;row 4;row 5;row 6;row 7;";
-        good(eight);
-        fault(2, 112, eight + "row 0;");
-        fault(2, 112, eight + "row");
-        fault(2, 112, eight + "row x");
+        Due.good(eight);
+        Due.fault(2, 112, eight + "row 0;");
+        Due.fault(2, 112, eight + "row");
+        Due.fault(2, 112, eight + "row x");
     }
 
     private static void mudAndSlack() {
-        good("mud 0;");
-        good("mud 9 9 9 9 9 9 9 9;");
-        fault(1, 3, "mud;");
-        fault(2, 4, "mud 10;");
-        fault(2, 6, "mud 0 10;");
-        fault(1, 6, "mud 0 x;");
-        fault(2, 20, "mud 0 0 0 0 0 0 0 0 0;");
-        fault(2, 20, "mud 0 0 0 0 0 0 0 0 99;");
-        fault(5, 6, "mud 0;mud 1;");
-        good("slack 0;");
-        good("slack 12;");
-        fault(2, 6, "slack 13;");
-        fault(1, 6, "slack -1;");
-        fault(5, 8, "slack 1;slack 99;");
+        Due.good("mud 0;");
+        Due.good("mud 9 9 9 9 9 9 9 9;");
+        Due.fault(1, 3, "mud;");
+        Due.fault(2, 4, "mud 10;");
+        Due.fault(2, 6, "mud 0 10;");
+        Due.fault(1, 6, "mud 0 x;");
+        Due.fault(2, 20, "mud 0 0 0 0 0 0 0 0 0;");
+        Due.fault(2, 20, "mud 0 0 0 0 0 0 0 0 99;");
+        Due.fault(5, 6, "mud 0;mud 1;");
+        Due.good("slack 0;");
+        Due.good("slack 12;");
+        Due.fault(2, 6, "slack 13;");
+        Due.fault(1, 6, "slack -1;");
+        Due.fault(5, 8, "slack 1;slack 99;");
         NightMarch x = Due.of("mud 3 1 4;slack 12;");
         Due.is("mud of night 0", 3, () -> x.count(5));
         x.nights(1);
@@ -175,44 +164,44 @@ public final class FaultsTest {
     }
 
     private static void rules() {
-        good("hears 1;");
-        good("hears sum+others*mud-beat/many<last;");
-        good("hears not 1<2 and not not sum=3 or(mud);");
-        good("hears 9999;");
-        fault(2, 6, "hears 10000;");
-        fault(2, 8, "hears 1+00000;");
-        fault(1, 5, "hears;");
-        fault(1, 5, "hears");
-        fault(1, 7, "hears 1");
-        fault(1, 6, "hears -1;");
-        fault(1, 6, "hears );");
-        fault(1, 8, "hears 1 2;");
-        fault(1, 8, "hears 1 sum;");
-        fault(1, 8, "hears 1 not 1;");
-        fault(1, 8, "hears 1 (1);");
-        fault(1, 8, "hears 1+;");
-        fault(1, 8, "hears 1++1;");
-        fault(1, 9, "hears 1<2<3;");
-        fault(1, 9, "hears 1=2<3;");
-        fault(1, 8, "hears (1;");
-        fault(1, 8, "hears (1");
-        fault(1, 7, "hears 1);");
-        fault(1, 7, "hears ();");
-        fault(1, 7, "hears 1#;");
-        fault(3, 6, "hears loud;");
-        fault(3, 6, "hears or;");
-        fault(3, 6, "hears man;");
-        fault(3, 6, "hears summ;");
-        fault(3, 6, "hears az;");
-        fault(1, 7, "hears  {;");
-        fault(1, 6, "hears `;");
-        fault(3, 8, "hears 1+not 1;");
-        fault(3, 8, "hears 1<not 1;");
-        fault(3, 12, "hears 1 and or;");
-        fault(3, 10, "hears not and;");
-        fault(3, 7, "hears (beats);");
-        fault(5, 8, "hears 1;hears;");
-        fault(5, 8, "hears 1;hears 1;");
+        Due.good("hears 1;");
+        Due.good("hears sum+others*mud-beat/many<last;");
+        Due.good("hears not 1<2 and not not sum=3 or(mud);");
+        Due.good("hears 9999;");
+        Due.fault(2, 6, "hears 10000;");
+        Due.fault(2, 8, "hears 1+00000;");
+        Due.fault(1, 5, "hears;");
+        Due.fault(1, 5, "hears");
+        Due.fault(1, 7, "hears 1");
+        Due.fault(1, 6, "hears -1;");
+        Due.fault(1, 6, "hears );");
+        Due.fault(1, 8, "hears 1 2;");
+        Due.fault(1, 8, "hears 1 sum;");
+        Due.fault(1, 8, "hears 1 not 1;");
+        Due.fault(1, 8, "hears 1 (1);");
+        Due.fault(1, 8, "hears 1+;");
+        Due.fault(1, 8, "hears 1++1;");
+        Due.fault(1, 9, "hears 1<2<3;");
+        Due.fault(1, 9, "hears 1=2<3;");
+        Due.fault(1, 8, "hears (1;");
+        Due.fault(1, 8, "hears (1");
+        Due.fault(1, 7, "hears 1);");
+        Due.fault(1, 7, "hears ();");
+        Due.fault(1, 7, "hears 1#;");
+        Due.fault(3, 6, "hears loud;");
+        Due.fault(3, 6, "hears or;");
+        Due.fault(3, 6, "hears man;");
+        Due.fault(3, 6, "hears summ;");
+        Due.fault(3, 6, "hears az;");
+        Due.fault(1, 7, "hears  {;");
+        Due.fault(1, 6, "hears `;");
+        Due.fault(3, 8, "hears 1+not 1;");
+        Due.fault(3, 8, "hears 1<not 1;");
+        Due.fault(3, 12, "hears 1 and or;");
+        Due.fault(3, 10, "hears not and;");
+        Due.fault(3, 7, "hears (beats);");
+        Due.fault(5, 8, "hears 1;hears;");
+        Due.fault(5, 8, "hears 1;hears 1;");
         heard(15, "1");
         heard(0, "0");
         heard(0, "0-1");
@@ -258,28 +247,28 @@ public final class FaultsTest {
     }
 
     private static void depth() {
-        good("hears (((((1)))));");
-        good("hears (((((not not not not not not 1)))));");
-        good("hears not not not not not not (not not not not not not 1);");
-        good("hears not not not not not not 1 and not not not not not not 1;");
-        good("hears ((((1)+(1))*((2)))+((((3)))));");
-        fault(2, 12, "hears ((((((1))))));");
-        fault(2, 12, "hears ((((((sum))))));");
-        fault(2, 12, "hears ((((((loud");
-        fault(2, 12, "hears ((((((or");
-        fault(2, 12, "hears ((((((not 1");
-        fault(2, 12, "hears (((((((1");
-        fault(2, 12, "hears ((((((99999");
-        fault(1, 12, "hears (((((();");
-        fault(1, 12, "hears ((((((;");
-        fault(1, 12, "hears ((((((+");
-        fault(1, 12, "hears ((((((#");
-        fault(1, 13, "hears (((((( ");
-        fault(2, 30, "hears not not not not not not not 1;");
-        fault(2, 30, "hears not not not not not not not");
-        fault(1, 29, "hears not not not not not not;");
-        fault(3, 30, "hears not not not not not not nor;");
-        fault(2, 31, "hears (not not not not not not not 1);");
+        Due.good("hears (((((1)))));");
+        Due.good("hears (((((not not not not not not 1)))));");
+        Due.good("hears not not not not not not (not not not not not not 1);");
+        Due.good("hears not not not not not not 1 and not not not not not not 1;");
+        Due.good("hears ((((1)+(1))*((2)))+((((3)))));");
+        Due.fault(2, 12, "hears ((((((1))))));");
+        Due.fault(2, 12, "hears ((((((sum))))));");
+        Due.fault(2, 12, "hears ((((((loud");
+        Due.fault(2, 12, "hears ((((((or");
+        Due.fault(2, 12, "hears ((((((not 1");
+        Due.fault(2, 12, "hears (((((((1");
+        Due.fault(2, 12, "hears ((((((99999");
+        Due.fault(1, 12, "hears (((((();");
+        Due.fault(1, 12, "hears ((((((;");
+        Due.fault(1, 12, "hears ((((((+");
+        Due.fault(1, 12, "hears ((((((#");
+        Due.fault(1, 13, "hears (((((( ");
+        Due.fault(2, 30, "hears not not not not not not not 1;");
+        Due.fault(2, 30, "hears not not not not not not not");
+        Due.fault(1, 29, "hears not not not not not not;");
+        Due.fault(3, 30, "hears not not not not not not nor;");
+        Due.fault(2, 31, "hears (not not not not not not not 1);");
     }
 
     private static void afterFaults() {
