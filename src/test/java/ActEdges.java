@@ -33,6 +33,30 @@ final class ActEdges {
         Due.within("count of a new object", 0, 14, Due.NO_SUCH, new NightMarch()::count);
     }
 
+    @Edge(promise = 5, says = "9 ACTS that are kept, 10 SEEN, 11 bytes of the tape, 12 to 14 STATUS 0 to 2.")
+    static void countsAtTheirMost() {
+        NightMarch x = Due.of(EIGHT.replace("mud 0;slack 0;", "mud 9;slack 12;hears 1;"));
+        for (int man = 1; man < 8; man++) {
+            x.heel(man, 0);
+        }
+        goBy(x, 999);
+        x.image();
+        for (int i = 0; i < 8; i++) {
+            x.see(7, 12, 11, true);
+        }
+        for (int i = 0; i < 35; i++) {
+            x.feed(0, 0, 0, 0, 0);
+        }
+        int[] counts = {12, 8, 8, 12, 999, 9, 99, 0, 28, 40, 8, 700, 0, 0, 0};
+        for (int what = 0; what < counts.length; what++) {
+            Due.same("count " + what, counts[what], x.count(what));
+        }
+        NightMarch own = Due.of("man 1 9;man 2 9;man 4 9;man 8 9;man 16 9;man 32 9;man 64 9;man 128 9;"
+            + "row 0;row 1;row 2;row 3;row 4;row 5;row 6;row 7;");
+        goBy(own, 100);
+        Due.is("HONOUR of all eight", 8 * 99, () -> own.count(6));
+    }
+
     @Edge(promise = {5, 3}, says = "The NIGHT is 0, HONOUR of all 0.")
     static void nightAndHonourAre0() {
         NightMarch x = Due.of(ONE);
@@ -141,6 +165,29 @@ final class ActEdges {
         Due.within("what", 0, 2, Due.NO_SUCH, what -> x.row(2, what));
     }
 
+    @Edge(promise = 7, says = "2 who is NAMED (NONE).")
+    static void nobodyIsNamed() {
+        NightMarch x = Due.of("beats 4;man 1 1;man 14 1;row 0;mud 0;slack 0;");
+        Due.is("the first MAN", 0, () -> x.row(0, 2));
+        x.heel(0, 1);
+        Due.is("he still", 0, () -> x.row(0, 2));
+        x.put(0, -1);
+        Due.is("nobody", -1, () -> x.row(0, 2));
+        x.put(1, 0);
+        Due.is("the last MAN", 1, () -> x.row(0, 2));
+    }
+
+    @Edge(promise = 7, says = "NAMED for a ROW is the MAN (in THE MARCH or in camp) whose TREAD differs from HEARD at fewest BEATS")
+    static void namedInCampOrInAnotherRow() {
+        NightMarch x = Due.of("beats 4;man 7 1;man 14 1;man 15 1;row 0;row 1;slack 1;hears 1;");
+        Due.is("one in camp is nearest", 2, () -> x.row(0, 2));
+        x.put(2, 1);
+        Due.is("one in another ROW", 2, () -> x.row(0, 2));
+        x.heel(2, 3);
+        Due.is("himself, as like as he", 0, () -> x.row(0, 2));
+        Due.is("for another ROW, too", 0, () -> x.row(1, 2));
+    }
+
     @Edge(promise = 7, says = "HEARD of a ROW are BEATS at which HEARS gives more than 0")
     static void heardIsMoreThan0() {
         String men = "beats 4;man 1 1;row 0;hears ";
@@ -229,6 +276,23 @@ final class ActEdges {
         Due.is("one", 1, () -> x.nights(1));
         Due.is("twenty", 21, () -> x.nights(20));
         Due.is("each is one ACT", 2, () -> x.count(9));
+    }
+
+    @Edge(promise = 8, says = "NIGHTS go by (1 to 20)")
+    static void nightsAreTheSameOneByOne() {
+        NightMarch once = Due.of(THREE);
+        NightMarch oneByOne = Due.of(THREE);
+        once.nights(20);
+        for (int night = 1; night <= 20; night++) {
+            Due.same("the NIGHT", night, oneByOne.nights(1));
+        }
+        int[] was = Due.whole(oneByOne);
+        was[9] = 1; // ACTS
+        Due.stays("20 at once", was, once);
+        Due.is("undone at once", 0, once::undo);
+        Due.is("the NIGHT", 0, () -> once.count(4));
+        Due.is("undone one by one", 19, oneByOne::undo);
+        Due.is("the NIGHT", 19, () -> oneByOne.count(4));
     }
 
     @Edge(promise = 8, says = "it would be above 999.")
@@ -335,6 +399,32 @@ final class ActEdges {
         refused(x, 5, was);
     }
 
+    @Edge(promise = 9, says = "PUT (row NONE: in camp): the ROW as it was.")
+    static void putInCampAndBack() {
+        NightMarch x = Due.of(CROWD);
+        Due.is("from the first ROW", 0, () -> x.put(0, -1));
+        Due.is("in camp", -1, () -> x.man(0, 3));
+        Due.is("from camp to the last ROW", -1, () -> x.put(0, 1));
+        Due.is("from there to the first one", 1, () -> x.put(0, 0));
+        Due.is("in it", 15, () -> x.row(0, 0));
+        Due.is("out of the last one", 112, () -> x.row(1, 0));
+    }
+
+    @Edge(promise = 9, says = "a MAN is PUT in a ROW (with fewer than 4 MEN, another than his own), or in camp")
+    static void allArePutInCamp() {
+        NightMarch x = Due.of(CROWD);
+        for (int man = 0; man < 7; man++) {
+            Due.same("the ROW as it was", man < 4 ? 0 : 1, x.put(man, -1));
+        }
+        Due.is("all eight", 255, () -> x.count(7));
+        Due.is("nobody is left", 0, () -> x.row(0, 0) + x.row(1, 0));
+        for (int man = 4; man < 8; man++) {
+            Due.same("from camp", -1, x.put(man, 0));
+        }
+        Due.is("four of them", 240, () -> x.row(0, 0));
+        Due.is("no fifth", -2, () -> x.put(0, 0));
+    }
+
     @Edge(promise = 9, says = "(with fewer than 4 MEN, another than his own)")
     static void putWithFewerThan4() {
         NightMarch x = Due.of(CROWD);
@@ -390,6 +480,17 @@ final class ActEdges {
     }
 
     // ---- Promise 11
+
+    @Edge(promise = 11, says = "LOUD of one becomes another (1 to 9)")
+    static void loudOfEach() {
+        NightMarch x = Due.of(THREE);
+        for (int loud = 1; loud <= 9; loud++) {
+            Due.same("LOUD as it was", loud == 1 ? 3 : loud - 1, x.loud(0, loud));
+            Due.same("LOUD as it is", loud, x.man(0, 1));
+            Due.same("HEARD in MUD 2", loud > 2 ? 1 : 0, x.row(0, 1));
+        }
+        Due.is("of the others it stays", 57, () -> 10 * x.man(1, 1) + x.man(2, 1));
+    }
 
     @Edge(promise = 11, says = "LOUD as it was. NONE (STATUS 1): not 1 to 9.")
     static void loud1To9() {
@@ -448,6 +549,19 @@ final class ActEdges {
         x.nights(21);
         Due.is("a refused ACT is none", -1, x::undo);
         Due.is("of a new object", -1, () -> new NightMarch().undo());
+    }
+
+    @Edge(promise = 13, says = "The last ACT is UNDONE: how many are left.")
+    static void undoLeavesFewer() {
+        NightMarch x = Due.of(THREE);
+        x.loud(0, 9);
+        x.loud(0, 1);
+        Due.is("one is left", 1, x::undo);
+        Due.is("LOUD", 9, () -> x.man(0, 1));
+        Due.is("none is left", 0, x::undo);
+        Due.is("LOUD", 3, () -> x.man(0, 1));
+        x.loud(0, 2);
+        Due.is("an undone one doesn't count", 1, () -> x.count(9));
     }
 
     @Edge(promise = {13, 5}, says = "ACTS (at most 40 are kept, the latest ones)")

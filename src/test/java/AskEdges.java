@@ -51,6 +51,19 @@ final class AskEdges {
         Due.is("no ROW at all", Due.NO_SUCH, () -> new NightMarch().then(0, 0, 0));
     }
 
+    @Edge(promise = 14, says = "THEN: HEARD (what 0), NAMED (1; NONE).")
+    static void thenNobody() {
+        NightMarch x = Due.of(THREE);
+        int[][] heard = {{1, 2, 4}, {2, 4, 0}, {4, 0, 0}};
+        int[][] named = {{0, 1, 2}, {1, 2, -1}, {2, -1, -1}};
+        for (int night = 0; night <= 40; night++) {
+            for (int row = 0; row < 3; row++) {
+                Due.same("HEARD of " + row + " in " + night, heard[night % 3][row], x.then(row, night, 0));
+                Due.same("NAMED for " + row + " in " + night, named[night % 3][row], x.then(row, night, 1));
+            }
+        }
+    }
+
     // ---- Promise 15
 
     @Edge(promise = 15, says = "IllegalArgumentException (behind NoSuchElementException): not 0 to 40.")
@@ -88,6 +101,16 @@ final class AskEdges {
         Due.is("nobody", Due.NO_SUCH, () -> new NightMarch().first(0));
     }
 
+    @Edge(promise = 16, says = "FIRST; NONE: none.")
+    static void firstOfOneWhoIsNeverNamed() {
+        NightMarch x = Due.of("beats 4;man 1 1;man 1 1;man 2 1;row 1;mud 0;slack 0;");
+        Due.is("in camp, like one who is heard", 1, () -> x.first(0));
+        Due.is("in the ROW, behind one like him", -1, () -> x.first(1));
+        Due.is("in camp", -1, () -> x.first(2));
+        NightMarch camp = Due.of("man 1 1;");
+        Due.is("no ROWS", -1, () -> camp.first(0));
+    }
+
     // ---- Promise 17
 
     @Edge(promise = 17, says = "MISTAKEN in the k-th NIGHT from now (1 to 40)")
@@ -116,6 +139,13 @@ final class AskEdges {
         Due.is("no ROWS", Due.ILLEGAL, () -> new NightMarch().mistaken(41));
     }
 
+    @Edge(promise = 17, says = "IllegalArgumentException: not 1 to 40.")
+    static void mistakenBeyond40() {
+        for (NightMarch x : new NightMarch[] {new NightMarch(), Due.of(THREE), Due.of(LAST)}) {
+            Due.within("k", 1, 40, Due.ILLEGAL, x::mistaken);
+        }
+    }
+
     // ---- Promise 18
 
     @Edge(promise = 18, says = "UNSUNG: MEN who aren't NAMED in any of so many NIGHTS (1 to 40), as bits.")
@@ -131,6 +161,13 @@ final class AskEdges {
         Due.is("no ROWS: all", 255, () -> all.unsung(40));
         NightMarch none = Due.of("beats 4;man 1 1;man 2 1;row 0;row 1;mud 0;slack 0;");
         Due.is("none", 0, () -> none.unsung(1));
+    }
+
+    @Edge(promise = 18, says = "IllegalArgumentException: not 1 to 40.")
+    static void unsungBeyond40() {
+        for (NightMarch x : new NightMarch[] {new NightMarch(), Due.of(THREE), Due.of(LAST)}) {
+            Due.within("nights", 1, 40, Due.ILLEGAL, x::unsung);
+        }
     }
 
     // ---- Promise 19
@@ -168,6 +205,20 @@ final class AskEdges {
         Due.is("of all couples the first", 1, like::nearest);
     }
 
+    @Edge(promise = 20, says = "10 by the lesser and the other one; NONE: none.")
+    static void nearestIsACoupleOrNone() {
+        int[] treads = {3, 12, 48, 192, 15, 33, 60, 32};
+        int[] due = {-1, -1, 1, 1, 1, 4, 4, 4, 27};
+        StringBuilder text = new StringBuilder();
+        for (int men = 0; men <= 8; men++) {
+            NightMarch x = Due.of(text.toString());
+            Due.same("of " + men, due[men], x.nearest());
+            if (men < 8) {
+                text.append("man ").append(treads[men]).append(" 1;");
+            }
+        }
+    }
+
     // ---- Promise 21
 
     @Edge(promise = 21, says = "TOLD APART: the greatest set of MEN any two of whom are FAR by so many (1 to 12) or more")
@@ -186,6 +237,15 @@ final class AskEdges {
         Due.is("all eight", 255, () -> all.apart(1));
         NightMarch like = Due.of("man 7 1;".repeat(8));
         Due.is("one of eight like ones", 1, () -> like.apart(1));
+    }
+
+    @Edge(promise = 21, says = "IllegalArgumentException: not 1 to 12.")
+    static void apartBeyond12() {
+        for (NightMarch x : new NightMarch[] {new NightMarch(), Due.of(THREE), Due.of(LAST)}) {
+            Due.within("beats", 1, 12, Due.ILLEGAL, x::apart);
+        }
+        NightMarch four = Due.of(THREE);
+        Due.is("by more BEATS than there are: one alone", 1, () -> four.apart(5));
     }
 
     @Edge(promise = 21, says = "of like ones the least as bits.")
@@ -223,6 +283,19 @@ final class AskEdges {
         Due.is("FAR by all", 4, () -> two.tread(0));
     }
 
+    @Edge(promise = 22, says = "the least such one; none without MEN.")
+    static void newTreadOfNoneAndOne() {
+        NightMarch x = Due.of("beats 4;");
+        Due.is("no MEN: how far", -1, () -> x.tread(0));
+        Due.is("no MEN: which", -1, () -> x.tread(1));
+        NightMarch y = Due.of("beats 4;man 0 1;");
+        Due.is("one: how far", 4, () -> y.tread(0));
+        Due.is("one: which", 15, () -> y.tread(1));
+        NightMarch z = Due.of("beats 4;man 0 1;man 15 1;");
+        Due.is("two: how far", 2, () -> z.tread(0));
+        Due.is("two: the least of six", 3, () -> z.tread(1));
+    }
+
     // ---- Promise 23
 
     @Edge(promise = 23, says = "PASSES; NONE: none, both are one.")
@@ -246,6 +319,21 @@ final class AskEdges {
         x.put(3, -1);
         Due.is("PUT to 3 others", 0, () -> x.passes(4, 0));
         Due.is("he stays in camp", -1, () -> x.man(4, 3));
+    }
+
+    @Edge(promise = 23, says = "the other one is NAMED in the next NIGHT; none.")
+    static void passesInTheNextNight() {
+        // In MUD 0 both together are heard as 2 treads, in MUD 9 nobody.
+        NightMarch x = Due.of("beats 4;man 1 1;man 2 1;man 3 1;row 0;row 1;mud 0 9;slack 0;");
+        Due.is("beside 1", 1, () -> x.passes(0, 2));
+        Due.is("beside 0", 0, () -> x.passes(1, 2));
+        x.nights(1);
+        Due.is("none in MUD 9", -1, () -> x.passes(0, 2));
+        x.nights(1);
+        Due.is("beside 1 again", 1, () -> x.passes(0, 2));
+        x.nights(2);
+        x.put(0, -1);
+        Due.is("from camp, too", 1, () -> x.passes(0, 2));
     }
 
     @Edge(promise = 23, says = "PASSES for another one: the ROW (of like ones the first)")
@@ -305,6 +393,17 @@ final class AskEdges {
         Due.is("for no ROW, also not another one", 4, () -> other.toSock(0));
     }
 
+    @Edge(promise = 25, says = "so that he is NAMED for no ROW in the next NIGHT; none.")
+    static void toSockThatIsInVain() {
+        NightMarch x = Due.of("beats 4;man 1 1;man 1 9;row 0;row 1;mud 3;slack 0;");
+        Due.is("for the other one's ROW he is NAMED all the same", -1, () -> x.toSock(0));
+        Due.is("the other one never is", 9, () -> x.toSock(1));
+        x.loud(1, 3);
+        Due.is("he alone can be heard", 3, () -> x.toSock(0));
+        NightMarch y = Due.of("beats 4;man 1 1;row 0;slack 1;mud 3;");
+        Due.is("who is NAMED also if nothing is heard", -1, () -> y.toSock(0));
+    }
+
     @Edge(promise = 25, says = "TO SOCK; NONE: none, in camp.")
     static void toSockInCamp() {
         NightMarch x = Due.of("beats 4;man 1 5;man 2 5;row 0;slack 0;mud 3;");
@@ -336,6 +435,19 @@ final class AskEdges {
         NightMarch eight = Due.of(men + "row 6;row 7;");
         Due.is("more than 6", -2, () -> eight.review(-1));
         Due.is("more than 6", -2, () -> eight.review(7));
+    }
+
+    @Edge(promise = 26, says = "how many (i NONE), which ROW comes to the i-th place; -2: more than 6.")
+    static void reviewFrom0To8Rows() {
+        StringBuilder text = new StringBuilder("man 1 9;man 2 9;man 4 9;man 8 9;man 16 9;man 32 9;man 64 9;man 128 9;");
+        for (int rows = 0; rows <= 8; rows++) {
+            NightMarch x = Due.of(text.toString());
+            Due.same("how many of " + rows, rows > 6 ? -2 : rows, x.review(-1));
+            for (int place = 0; place < rows; place++) {
+                Due.same("place " + place + " of " + rows, rows > 6 ? -2 : place, x.review(place));
+            }
+            text.append("row ").append(rows).append(';');
+        }
     }
 
     @Edge(promise = 26, says = "NoSuchElementException: also no such place.")

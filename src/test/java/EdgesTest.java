@@ -4,6 +4,8 @@ import java.nio.file.Files;
 import java.nio.file.Path;
 import java.util.Arrays;
 import java.util.Comparator;
+import java.util.regex.Matcher;
+import java.util.regex.Pattern;
 
 /** Runs each boundary case as a test of its own, and looks whether the document says what the test quotes. */
 public final class EdgesTest {
@@ -11,14 +13,20 @@ public final class EdgesTest {
         TextEdges.class, ActEdges.class, AskEdges.class, GuessEdges.class, TreadEdges.class,
     };
     private static final int PROMISES = 49;
+    /** Words by which the document names a boundary; each place of them must be within what a test quotes. */
+    private static final Pattern BOUNDARY = Pattern.compile("\\d+ to \\d+|at most|like ones|as few|\\bnone\\b|NONE|nobody"
+        + "|without|Exception|more than|fewer|both are one|wrap|camp|-2|empty|gone|stays|False|the first|the least|the last");
 
     private static final int[] tested = new int[PROMISES + 1];
     private static int failed = 0;
     private static int run = 0;
     private static String document;
+    private static boolean[] quoted;
 
     public static void main(String[] args) throws Exception {
-        document = oneLine(Files.readString(Path.of("../shared/DOC.md")));
+        // What stands in backquotes is the face of the class, which FaceTest looks at.
+        document = oneLine(Files.readString(Path.of("../shared/DOC.md")).replaceAll("(?m)^`[^`]+`:", ""));
+        quoted = new boolean[document.length()];
         for (Class<?> holder : HOLDERS) {
             Method[] methods = holder.getDeclaredMethods();
             Arrays.sort(methods, Comparator.comparing(Method::getName));
@@ -31,6 +39,7 @@ public final class EdgesTest {
         for (int promise = 1; promise <= PROMISES; promise++) {
             Due.isTrue("promise " + promise + " has a boundary test", tested[promise] > 0);
         }
+        lookForBoundaries();
         System.out.println((run - failed) + " boundary tests hold, " + failed + " don't");
         Due.end();
     }
@@ -57,14 +66,28 @@ public final class EdgesTest {
     /** Words of a promise stand under its heading; the terms stand for all promises. */
     private static boolean isSaid(int promise, String words) {
         String told = oneLine(words);
-        return part("## Terms", "## Promise 1:").contains(told)
-            || part("## Promise " + promise + ":", "## ").contains(told);
+        boolean isTerm = quote("## Terms", "## Promise 1:", told);
+        return quote("## Promise " + promise + ":", "## ", told) || isTerm;
     }
 
-    private static String part(String heading, String end) {
+    private static boolean quote(String heading, String end, String words) {
         int from = document.indexOf(heading);
         int to = document.indexOf(end, from + heading.length());
-        return from < 0 || to < 0 ? "" : document.substring(from, to);
+        boolean isThere = false;
+        for (int at = document.indexOf(words, from); at >= 0 && at < to; at = document.indexOf(words, at + 1)) {
+            Arrays.fill(quoted, at, at + words.length(), true);
+            isThere = true;
+        }
+        return isThere;
+    }
+
+    private static void lookForBoundaries() {
+        Matcher matcher = BOUNDARY.matcher(document);
+        int end = document.indexOf("## Not promised");
+        for (int at = document.indexOf("## Terms"); matcher.find(at) && matcher.start() < end; at = matcher.end()) {
+            String around = document.substring(Math.max(0, matcher.start() - 50), Math.min(end, matcher.end() + 30));
+            Due.isTrue("a test quotes '" + around + "'", quoted[matcher.start()]);
+        }
     }
 
     private static String oneLine(String text) {

@@ -1,3 +1,5 @@
+import java.math.BigInteger;
+
 /** Boundary cases of what is seen, of mud, of the game and of nights by a seed: promises 27 to 33. */
 final class GuessEdges {
     /** Three alone, by MUD: all NAMED in the first NIGHT of three, 1 and 2 in the second, 2 in the third. */
@@ -25,6 +27,16 @@ final class GuessEdges {
         Due.is("STATUS 2", 2, () -> x.count(14));
         Due.is("no other STATUS", 0, () -> x.count(12) + x.count(13));
         Due.stays("what is refused", was, x);
+    }
+
+    @Edge(promise = {27, 5}, says = "SEEN (at most 8)")
+    static void seenFrom0To8() {
+        NightMarch x = Due.of(THREE);
+        for (int many = 0; many <= 9; many++) {
+            Due.same("SEEN", Math.min(many, 8), x.count(10));
+            x.see(0, 1, 0, many % 2 == 0);
+        }
+        Due.is("refused", 2, () -> x.count(14));
     }
 
     @Edge(promise = 27, says = "in the k-th NIGHT from now (1 to 12).")
@@ -109,6 +121,25 @@ final class GuessEdges {
         Due.is("no MEN", -1, () -> none.limped(1));
         Due.is("no MEN: it is so without", 1, () -> none.limped(2));
         Due.is("no MEN, another what", Due.NO_SUCH, () -> none.limped(3));
+    }
+
+    @Edge(promise = 29, says = "how many; the first (100 by the MAN, and the BEAT); whether it is so without (1).")
+    static void limpedTheFirst() {
+        NightMarch x = Due.of(STILL);
+        for (int man = 0; man < 8; man++) {
+            for (int beat = 0; beat < 12; beat++) {
+                x.forget();
+                Due.same("without", 1, x.limped(2));
+                x.see(man, 1, beat, true);
+                Due.same("he alone", 1, x.limped(0));
+                Due.same("the first", 100 * man + beat, x.limped(1));
+                Due.same("not without", 0, x.limped(2));
+            }
+        }
+        NightMarch both = Due.of("beats 4;man 0 1;man 0 1;man 0 9;man 0 9;row 0 2 1 3;mud 5;");
+        both.see(0, 1, 3, true);
+        Due.is("2 or 3", 2, () -> both.limped(0));
+        Due.is("of both the first", 203, () -> both.limped(1));
     }
 
     @Edge(promise = 29, says = "by one of which, were the HEEL set otherwise now, all SEEN would be so")
@@ -237,6 +268,36 @@ final class GuessEdges {
         Due.is("more: the other one stamps", 1, () -> more.game(1, 0, 1));
     }
 
+    @Edge(promise = 32, says = "how many; the first (10 by the first one's and the other one's).")
+    static void gameTheFirst() {
+        String two = "beats 4;man 1 1;man 2 1;row 0;row 1;slack 0;";
+        NightMarch stay = Due.of(two + "mud 9;");
+        Due.is("neither: one", 1, () -> stay.game(0, 1, 0));
+        Due.is("neither", 0, () -> stay.game(0, 1, 1));
+        NightMarch stamp = Due.of(two + "mud 8;");
+        Due.is("both: one", 1, () -> stamp.game(0, 1, 0));
+        Due.is("both", 11, () -> stamp.game(0, 1, 1));
+        NightMarch first = Due.of(two + "mud 8;");
+        first.loud(1, 9);
+        Due.is("the first one", 10, () -> first.game(0, 1, 1));
+        Due.is("the other one", 1, () -> first.game(1, 0, 1));
+        NightMarch all = Due.of(two + "mud 8 9 9 9 9 9;");
+        Due.is("all four", 4, () -> all.game(0, 1, 0));
+        Due.is("of all the first", 0, () -> all.game(0, 1, 1));
+    }
+
+    @Edge(promise = 32, says = "each stamps (LOUD 9) now, or not (1, 0)")
+    static void gameStampsAt9() {
+        String two = "beats 4;man 1 8;man 2 1;row 0;row 1;slack 0;";
+        NightMarch eight = Due.of(two + "mud 8;");
+        Due.is("9 is more than 8: both stamp", 11, () -> eight.game(0, 1, 1));
+        NightMarch seven = Due.of(two + "mud 7;");
+        Due.is("8 is more than 7: the other one alone stamps", 1, () -> seven.game(0, 1, 1));
+        NightMarch nine = Due.of(two + "mud 9;");
+        Due.is("9 is not more than 9: neither", 0, () -> nine.game(0, 1, 1));
+        Due.is("LOUD stays", 81, () -> 10 * nine.man(0, 1) + nine.man(1, 1));
+    }
+
     @Edge(promise = 32, says = "each gains HONOUR he has more in 6 NIGHTS")
     static void gameIn6Nights() {
         String two = "beats 4;man 1 1;man 2 1;row 0;row 1;slack 0;mud 9 9 9 9 9 ";
@@ -333,44 +394,104 @@ final class GuessEdges {
 
     @Edge(promise = 33, says = "A seed becomes itself times 1103515245 and 12345 (an int that wraps); a DRAW of n is its bits 16 to 30 MOD n then.")
     static void seedsThatWrap() {
-        int[] seeds = {0, 1, -1, 12345, Integer.MAX_VALUE, Integer.MIN_VALUE, 1 << 16, 1 << 30, -12345, 0x55555555, 0xAAAAAAAA};
-        NightMarch x = Due.of("beats 4;man 1 5;row 0;slack 0;");
+        int[] seeds = {
+            0, 1, -1, 12345, -12345, Integer.MAX_VALUE, Integer.MIN_VALUE, 1 << 15, 1 << 16, 1 << 30, 0x55555555, 0xAAAAAAAA,
+        };
         for (int seed : seeds) {
-            for (int n = 0; n <= 40; n++) {
-                Due.same("seed " + seed + " in " + n, alone(seed, n), x.reviews(seed, n, 0));
+            for (int n = 0; n <= 40; n += n < 4 ? 1 : 9) {
+                sameReviews(seed, n, 4, 1);
+                sameReviews(seed, n, 12, 8);
             }
         }
     }
 
-    /** HONOUR of one MAN alone with TREAD 1 and LOUD 5 of 4 BEATS, whom only his own TREAD names. */
-    private static int alone(int seed, int n) {
-        java.math.BigInteger state = java.math.BigInteger.valueOf(seed & 0xFFFFFFFFL);
-        int tread = 1;
-        int loud = 5;
-        int honour = 0;
-        for (int night = 0; night < n; night++) {
-            state = after(after(state)); // the MAN can be none but 0
-            int kind = bits(state) % 3;
-            if (kind < 2) {
-                state = after(state);
+    @Edge(promise = 33, says = "n NIGHTS (0 to 40) from now on: ahead of each a DRAW of MEN, then a DRAW of 3")
+    static void drawsOf1To8Men() {
+        for (int men = 1; men <= 8; men++) {
+            for (int beats = 4; beats <= 12; beats++) {
+                for (int seed = 0; seed < 5; seed++) {
+                    sameReviews(seed, 1, beats, men);
+                    sameReviews(seed, 40, beats, men);
+                }
             }
+        }
+    }
+
+    @Edge(promise = 33, says = "(Without MEN the DRAW of 10 alone.)")
+    static void drawsWithoutMen() {
+        NightMarch x = new NightMarch();
+        for (int seed : new int[] {0, 1, -1, Integer.MIN_VALUE, Integer.MAX_VALUE}) {
+            for (int n : new int[] {0, 1, 40}) {
+                Due.is("HONOUR", 0, () -> x.reviews(seed, n, 0));
+                Due.is("how often", 0, () -> x.reviews(seed, n, 1));
+                Due.is("the MAN", -1, () -> x.reviews(seed, n, 2));
+            }
+        }
+    }
+
+    /** So many MEN, each alone in a ROW, with LOUD 5, of whom each is NAMED by his own TREAD alone. */
+    private static void sameReviews(int seed, int n, int beats, int men) {
+        StringBuilder text = new StringBuilder("beats " + beats + ";slack 0;");
+        for (int man = 0; man < men; man++) {
+            text.append("man ").append(man + 1).append(" 5;row ").append(man).append(';');
+        }
+        NightMarch x = Due.of(text.toString());
+        int[] due = plainReviews(seed, n, beats, men);
+        for (int what = 0; what < 3; what++) {
+            Due.same("seed " + seed + " in " + n + " of " + men + " by " + beats, due[what], x.reviews(seed, n, what));
+        }
+    }
+
+    private static int[] plainReviews(int seed, int n, int beats, int men) {
+        BigInteger state = BigInteger.valueOf(seed & 0xFFFFFFFFL);
+        int[] treads = new int[men];
+        int[] louds = new int[men];
+        int[] honours = new int[men];
+        for (int man = 0; man < men; man++) {
+            treads[man] = man + 1;
+            louds[man] = 5;
+        }
+        int mistaken = 0;
+        for (int night = 0; night < n; night++) {
+            state = after(state);
+            int drawn = bits(state) % men;
+            state = after(state);
+            int kind = bits(state) % 3;
             if (kind == 0) {
-                tread ^= 1 << bits(state) % 4;
+                state = after(state);
+                treads[drawn] ^= 1 << bits(state) % beats;
             } else if (kind == 1) {
-                loud = bits(state) % 9 + 1;
+                state = after(state);
+                louds[drawn] = bits(state) % 9 + 1;
             }
             state = after(state);
-            honour += tread == 0 || loud > bits(state) % 10 ? 1 : 0;
+            int mud = bits(state) % 10;
+            for (int man = 0; man < men; man++) {
+                int heard = louds[man] > mud ? treads[man] : 0;
+                int named = 0;
+                while (named < men && treads[named] != heard) {
+                    named++;
+                }
+                if (named < men) {
+                    honours[named] = Math.min(99, honours[named] + 1);
+                    mistaken += named == man ? 0 : 1;
+                }
+            }
         }
-        return honour;
+        int sum = 0;
+        int best = 0;
+        for (int man = 0; man < men; man++) {
+            sum += honours[man];
+            best = honours[man] > honours[best] ? man : best;
+        }
+        return new int[] {sum, mistaken, best};
     }
 
-    private static java.math.BigInteger after(java.math.BigInteger state) {
-        return state.multiply(java.math.BigInteger.valueOf(1103515245)).add(java.math.BigInteger.valueOf(12345))
-            .mod(java.math.BigInteger.ONE.shiftLeft(32));
+    private static BigInteger after(BigInteger state) {
+        return state.multiply(BigInteger.valueOf(1103515245)).add(BigInteger.valueOf(12345)).mod(BigInteger.ONE.shiftLeft(32));
     }
 
-    private static int bits(java.math.BigInteger state) {
+    private static int bits(BigInteger state) {
         return state.shiftRight(16).intValue() & 32767;
     }
 }

@@ -33,6 +33,16 @@ final class TextEdges {
         Due.is("no ROW", Due.NO_SUCH, () -> x.row(0, 0));
     }
 
+    @Edge(promise = {1, 49}, says = "The constants: `NONE = -1`: There is none; nobody.")
+    static void noneIsBelow0() {
+        Due.same("NONE", -1, NightMarch.NONE);
+        NightMarch x = new NightMarch();
+        Due.is("there is no FAULT", NightMarch.NONE, x::fault);
+        Due.is("there is no ACT", NightMarch.NONE, x::undo);
+        Due.is("nobody", NightMarch.NONE, () -> x.nextTo(0));
+        Due.is("there is no ROW", NightMarch.NONE, x::loudest);
+    }
+
     // ---- Promise 2
 
     @Edge(promise = 2, says = "NONE, and none come, if it would have more than 700.")
@@ -50,6 +60,18 @@ final class TextEdges {
         Due.is("what came first is on it", 0, () -> x.army(700));
         Due.is("BEATS", 5, () -> x.count(0));
         Due.is("there is room again", 20, () -> feedBlanks(x));
+    }
+
+    @Edge(promise = 2, says = "Twenty bytes come behind the tape")
+    static void bytesComeBehindTheTape() {
+        NightMarch x = new NightMarch();
+        Due.is("twenty", 20, () -> x.feed(0x62656174, BLANKS, BLANKS, BLANKS, BLANKS));
+        Due.is("forty", 40, () -> x.feed(0x7320343B, BLANKS, BLANKS, BLANKS, BLANKS));
+        Due.is("the blanks of the first lie between", 1, () -> x.army(40));
+        Due.is("twenty again", 20, () -> x.feed(BLANKS, BLANKS, BLANKS, BLANKS, 0x62656174));
+        Due.is("forty again", 40, () -> x.feed(0x7320343B, BLANKS, BLANKS, BLANKS, BLANKS));
+        Due.is("'beat' and 's 4;' side by side", 0, () -> x.army(40));
+        Due.is("BEATS", 4, () -> x.count(0));
     }
 
     @Edge(promise = 2, says = "of each number the highest first")

@@ -32,6 +32,15 @@ final class TreadEdges {
         Due.is("no MEN", Due.ILLEGAL, () -> new NightMarch().alike(256));
     }
 
+    @Edge(promise = 35, says = "MEN whose TREADS differ from them at as few BEATS as the nearest one's")
+    static void alikeTheNearest() {
+        NightMarch x = Due.of("beats 4;man 0 1;man 15 1;man 3 1;man 12 1;");
+        Due.is("one is the same", 1, () -> x.alike(0));
+        Due.is("the same as the second", 2, () -> x.alike(15));
+        Due.is("two are FAR by 1", 5, () -> x.alike(1));
+        Due.is("all are FAR by 2", 15, () -> x.alike(5));
+    }
+
     @Edge(promise = 35, says = "(bits; SLACK doesn't count)")
     static void alikeBeyondSlack() {
         NightMarch x = Due.of("beats 12;" + "man 0 1;".repeat(8) + "slack 0;");
@@ -190,6 +199,28 @@ final class TreadEdges {
         Due.is("what and nights", Due.NO_SUCH, () -> x.often(0, -1));
     }
 
+    @Edge(promise = {40, 41}, says = "(If only NIGHTS go by, from now on, so many, 1 to 40:)")
+    static void soManyNightsFromNowOn() {
+        // In the first of eight NIGHTS all is heard, and the first MAN is NAMED; else nothing, and the last one is.
+        NightMarch x = Due.of("beats 4;man 15 1;man 0 1;row 0;mud 1 0 0 0 0 0 0 0;slack 0;hears mud;");
+        Due.is("RIGHT in 1", 1, () -> x.often(1, 1));
+        Due.is("RIGHT in 8", 1, () -> x.often(8, 1));
+        Due.is("RIGHT in 9", 2, () -> x.often(9, 1));
+        Due.is("RIGHT in 40", 5, () -> x.often(40, 1));
+        Due.is("most in 1", 0, () -> x.most(1));
+        Due.is("most in 2", 0, () -> x.most(2));
+        Due.is("most in 3", 1, () -> x.most(3));
+        x.heel(1, 0);
+        Due.is("nobody in 1", 0, () -> x.often(1, 0));
+        Due.is("nobody in 2", 1, () -> x.often(2, 0));
+        Due.is("nobody in 40", 35, () -> x.often(40, 0));
+        x.nights(1);
+        Due.is("nobody in 39 from then on", 35, () -> x.often(39, 0));
+        Due.is("nobody in 40 from then on", 35, () -> x.often(40, 0));
+        Due.is("RIGHT in 40 from then on", 5, () -> x.often(40, 1));
+        Due.is("nothing went by", 1, () -> x.count(4));
+    }
+
     @Edge(promise = 41, says = "NOBODY: how often nobody is NAMED for a ROW in them. RIGHT: how often one is NAMED for a ROW who is in it, in them.")
     static void oftenOfNoneAndOfAll() {
         NightMarch x = Due.of(OWN);
@@ -273,6 +304,26 @@ final class TreadEdges {
         Due.is("the TREAD stays", 4095, () -> slack.man(0, 0));
     }
 
+    @Edge(promise = 43, says = "how many; the TREAD then (of like ones the least); none, in camp.")
+    static void reformOfLikeOnesTheLeast() {
+        NightMarch x = Due.of("beats 4;man 0 1;man 7 1;row 0;slack 1;hears 1;");
+        // He must be as near to 15 as the one in camp: all but one BEAT, by 3 of his.
+        Due.is("how many", 3, () -> x.reform(0, 0));
+        Due.is("of four the least", 7, () -> x.reform(0, 1));
+        x.put(0, -1);
+        Due.is("in camp", -1, () -> x.reform(0, 0));
+        x.put(1, 0);
+        Due.is("as it is", 0, () -> x.reform(1, 0));
+        Due.is("as it is", 7, () -> x.reform(1, 1));
+        x.heel(0, 0);
+        x.heel(0, 1);
+        x.heel(0, 3);
+        Due.is("one as near is ahead of him: he needs all", 1, () -> x.reform(1, 0));
+        Due.is("all BEATS", 15, () -> x.reform(1, 1));
+        x.heel(0, 2);
+        Due.is("one ahead of him has all: none", -1, () -> x.reform(1, 0));
+    }
+
     // ---- Promises 44 and 45
 
     @Edge(promise = 44, says = "if these are more than without (of like ones the first): 10 by the lesser one, and the other one; none.")
@@ -292,6 +343,18 @@ final class TreadEdges {
         Due.is("of 0 and 3, 1 and 2, 1 and 3 the first", 3, x::swap);
         x.change(0, 3);
         Due.is("no more are RIGHT by another one", -1, x::swap);
+    }
+
+    @Edge(promise = 44, says = "A CHANGE; NONE: none.")
+    static void swapOf0To3Rows() {
+        String men = "beats 4;man 1 1;man 2 1;man 1 1;man 4 1;";
+        String rule = "slack 0;hears sum and not others;";
+        for (String rows : new String[] {"", "row 0;", "row 0;row 2;", "row 0;row 1;row 2;"}) {
+            NightMarch x = Due.of(men + rows + rule);
+            Due.is("none", -1, x::swap);
+        }
+        NightMarch three = Due.of(men + "row 0;row 2;row 1;" + rule);
+        Due.is("0 and 2, who are alike, are kept apart", 12, three::swap);
     }
 
     @Edge(promise = 44, says = "A CHANGE of two ROWS (the lesser first): that by which most ROWS are RIGHT in the next NIGHT")
