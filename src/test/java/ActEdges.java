@@ -366,7 +366,8 @@ final class ActEdges {
             + "hears mud and sum and not others and beat=0;");
         x.nights(1);
         Due.is("beside 1 he isn't heard", 0, () -> x.count(6));
-        NightMarch y = Due.of("beats 4;man 1 1;man 2 1;man 4 1;row 0;row 1;row 2;mud 1 0;slack 0;hears mud and sum and not others;");
+        NightMarch y = Due.of("beats 4;man 1 1;man 2 1;man 4 1;row 0;row 1;row 2;mud 1 0;slack 0;"
+            + "hears mud and sum and not others;");
         y.nights(1);
         Due.is("in MUD 1 all are", 3, () -> y.count(6));
         y.nights(1);
@@ -570,22 +571,31 @@ final class ActEdges {
         int[][] was = new int[42][];
         for (int act = 1; act <= 41; act++) {
             was[act - 1] = Due.whole(x);
-            switch (act % 5) {
-                case 1: x.heel(act % 8, act % 12); break;
-                case 2: x.loud(act % 8, 2 + act % 8); break;
-                case 3: x.change(act % 8, (act + 3) % 8); break;
-                case 4: x.put(7, act % 2 == 0 ? -1 : x.man(0, 3)); break;
-                default: x.nights(1 + act % 20); break;
-            }
+            actOfAKind(x, act);
             Due.same("ACTS", Math.min(act, 40), x.count(9));
         }
+        undo40(x, was);
+        Due.is("the first one stays", 3, () -> x.man(1, 0));
+    }
+
+    private static void actOfAKind(NightMarch x, int act) {
+        switch (act % 5) {
+            case 1: x.heel(act % 8, act % 12); break;
+            case 2: x.loud(act % 8, 2 + act % 8); break;
+            case 3: x.change(act % 8, (act + 3) % 8); break;
+            case 4: x.put(7, act % 2 == 0 ? -1 : x.man(0, 3)); break;
+            default: x.nights(1 + act % 20); break;
+        }
+    }
+
+    /** The latest 40 of 41 ACTS are taken back, each to what was ahead of it. */
+    private static void undo40(NightMarch x, int[][] was) {
         for (int left = 39; left >= 0; left--) {
             Due.same("left", left, x.undo());
             was[left + 1][9] = left;
             Due.stays("ACT " + (left + 2) + " is undone", was[left + 1], x);
         }
         Due.is("no more", -1, x::undo);
-        Due.is("the first one stays", 3, () -> x.man(1, 0));
     }
 
     @Edge(promise = 13, says = "They are UNDONE, the last one first.")
@@ -676,35 +686,30 @@ final class ActEdges {
 
     @Edge(promise = 48, says = "ACTS and what is SEEN are kept")
     static void imageOf40ActsAnd8Seen() {
-        NightMarch x = Due.of(ONE);
+        NightMarch x = Due.of(EIGHT);
         int[][] was = new int[42][];
         for (int act = 1; act <= 41; act++) {
             was[act - 1] = Due.whole(x);
-            x.nights(1 + act % 3);
+            actOfAKind(x, act);
         }
         for (int i = 0; i < 8; i++) {
-            x.see(0, 12 - i, i % 4, i % 4 == 0);
+            x.see(i, 12 - i, i, false);
         }
+        int[] then = Due.whole(x);
         x.image();
-        for (int i = 0; i < 40; i++) {
-            x.loud(0, 1);
+        for (int act = 43; act <= 84; act++) {
+            actOfAKind(x, act);
         }
         x.forget();
         for (int i = 0; i < 8; i++) {
             x.see(0, 1, 3, true);
         }
-        x.restore();
+        Due.isTrue("restored", x.restore());
+        Due.stays("as the image", then, x);
         Due.is("SEEN", 8, () -> x.count(10));
         Due.is("full", -1, () -> x.see(0, 1, 0, true));
-        Due.is("it is so without", 1, () -> x.limped(2));
-        Due.is("all the same by none", 0, () -> x.limped(0));
         x.forget();
-        for (int left = 39; left >= 0; left--) {
-            Due.same("left", left, x.undo());
-            was[left + 1][9] = left;
-            Due.stays("ACT " + (left + 2) + " is undone", was[left + 1], x);
-        }
-        Due.is("no more", -1, x::undo);
+        undo40(x, was);
     }
 
     @Edge(promise = 48, says = "what is SEEN are kept as an image")

@@ -1,3 +1,6 @@
+import java.util.ArrayList;
+import java.util.List;
+
 /** Boundary cases of what will be heard, how treads lie, who passes for whom, and of reviews: promises 14 to 26. */
 final class AskEdges {
     /** Three alone, by MUD: all NAMED in the first NIGHT of three, 1 and 2 in the second, 2 in the third. */
@@ -385,7 +388,8 @@ final class AskEdges {
         Due.is("in the next NIGHT", 3, () -> next.toSock(0));
         next.nights(1);
         Due.is("in the one behind it", 7, () -> next.toSock(0));
-        NightMarch beside = Due.of("beats 4;man 1 9;man 3 9;man 4 9;row 0;row 1;row 2;mud 3;slack 0;hears mud<sum and others<9;");
+        NightMarch beside = Due.of("beats 4;man 1 9;man 3 9;man 4 9;row 0;row 1;row 2;mud 3;slack 0;"
+            + "hears mud<sum and others<9;");
         Due.is("beside 1 he isn't heard", 9, () -> beside.toSock(0));
         beside.nights(1);
         Due.is("beside 2 he is", 3, () -> beside.toSock(0));
@@ -422,7 +426,8 @@ final class AskEdges {
 
     @Edge(promise = 26, says = "(With more than 6 ROWS none is sought.)")
     static void reviewOf6And7Rows() {
-        String men = "man 1 9;man 2 9;man 4 9;man 8 9;man 16 9;man 32 9;man 64 9;man 128 9;row 0;row 1;row 2;row 3;row 4;row 5;";
+        String men = "man 1 9;man 2 9;man 4 9;man 8 9;man 16 9;man 32 9;man 64 9;man 128 9;"
+            + "row 0;row 1;row 2;row 3;row 4;row 5;";
         NightMarch six = Due.of(men);
         Due.is("six", 6, () -> six.review(-1));
         for (int place = 0; place < 6; place++) {
@@ -461,6 +466,67 @@ final class AskEdges {
         Due.is("one ROW: how many", 1, () -> one.review(-1));
         Due.is("one ROW", 0, () -> one.review(0));
         Due.is("no second place", Due.NO_SUCH, () -> one.review(1));
+    }
+
+    @Edge(promise = 26, says = "in which most ROWS are NAMED for a MAN who is in them (as HEARD in that order, MUD as it is)")
+    static void reviewAsHeardInThatOrder() {
+        // The loud one drowns who is beside him, ahead or behind: they have to be kept apart by the third one.
+        String men = "beats 4;man 1 2;man 3 1;man 8 1;slack 0;hears others<sum;";
+        int[][] orders = {{0, 1, 2, 0, 2, 1}, {1, 0, 2, 0, 2, 1}, {0, 2, 1, 0, 1, 2}, {2, 0, 1, 1, 0, 2}, {2, 1, 0, 1, 0, 2}};
+        for (int[] order : orders) {
+            NightMarch x = Due.of(men + "row " + order[0] + ";row " + order[1] + ";row " + order[2] + ";");
+            Due.same("all three", 3, x.review(-1));
+            for (int place = 0; place < 3; place++) {
+                Due.same("place " + place, order[3 + place], x.review(place));
+            }
+        }
+    }
+
+    @Edge(promise = 26, says = "A REVIEW: of all orders of ROWS that in which most ROWS are NAMED for a MAN who is in them")
+    static void reviewOfAllOrdersOf6() {
+        String[] armies = {
+            "beats 4;man 1 3;man 3 2;man 6 4;man 12 1;man 9 5;man 7 2;man 14 3;man 5 1;slack 0;mud 1;hears mud+others/2<sum;",
+            "beats 5;man 17 1;man 3 2;man 6 1;man 12 2;man 24 1;man 21 2;man 14 1;man 5 1;slack 0;hears sum and others-sum<2;",
+        };
+        for (String army : armies) {
+            int most = -1;
+            int[] best = null;
+            for (int number = 0; number < 720; number++) {
+                int[] order = orderOf6(number);
+                NightMarch x = Due.of(army + rowsOf6(order));
+                if (x.often(1, 1) > most) {
+                    most = x.often(1, 1);
+                    best = order;
+                }
+            }
+            NightMarch y = Due.of(army + rowsOf6(orderOf6(0)));
+            Due.same("how many", most, y.review(-1));
+            for (int place = 0; place < 6; place++) {
+                Due.same("place " + place, best[place], y.review(place));
+            }
+        }
+    }
+
+    /** The orders one behind the other, place by place. */
+    private static int[] orderOf6(int number) {
+        List<Integer> left = new ArrayList<>(List.of(0, 1, 2, 3, 4, 5));
+        int[] order = new int[6];
+        int rest = number;
+        int each = 120;
+        for (int place = 0; place < 6; place++) {
+            order[place] = left.remove(rest / each);
+            rest %= each;
+            each /= Math.max(1, 5 - place);
+        }
+        return order;
+    }
+
+    private static String rowsOf6(int[] order) {
+        StringBuilder text = new StringBuilder();
+        for (int row : order) {
+            text.append("row ").append(row).append(row < 2 ? " " + (6 + row) : "").append(';');
+        }
+        return text.toString();
     }
 
     @Edge(promise = 26, says = "how many; the first such order (place by place: which ROW as it is now).")

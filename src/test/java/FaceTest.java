@@ -80,6 +80,13 @@ public final class FaceTest {
 
     private static void text() throws Exception {
         String text = Files.readString(Path.of("src/main/java/NightMarch.java"));
+        String document = Files.readString(Path.of("../shared/DOC.md"));
+        String face = document.substring(document.indexOf("public final class"), document.indexOf("## Terms"));
+        for (String line : face.split("\n")) {
+            if (line.startsWith("    public") && line.contains("(")) {
+                Due.isTrue("the text has" + line, text.contains("\n" + line.replace(";", " {") + "\n"));
+            }
+        }
         for (String word : RULED_OUT) {
             Due.isTrue("the text has no " + word, !text.contains(word));
         }

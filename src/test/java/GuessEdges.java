@@ -488,7 +488,8 @@ final class GuessEdges {
     }
 
     private static BigInteger after(BigInteger state) {
-        return state.multiply(BigInteger.valueOf(1103515245)).add(BigInteger.valueOf(12345)).mod(BigInteger.ONE.shiftLeft(32));
+        return state.multiply(BigInteger.valueOf(1103515245)).add(BigInteger.valueOf(12345))
+            .mod(BigInteger.ONE.shiftLeft(32));
     }
 
     private static int bits(BigInteger state) {

@@ -152,7 +152,8 @@ final class TextEdges {
         x.loud(0, 4);
         int[] was = Due.whole(x);
         was[15] = 64;
-        Due.same("a fault in the last byte", 1, Due.army(x, "beats 8;man 1 1;row 0;mud 8;slack 12;hears 1;man 0 1;man 0 1;row#"));
+        Due.same("a fault in the last byte", 1,
+            Due.army(x, "beats 8;man 1 1;row 0;mud 8;slack 12;hears 1;man 0 1;man 0 1;row#"));
         Due.stays("the FAULT", was, x);
         Due.is("the ACT is there", 1, x::undo);
         Due.isTrue("the image is there", x.restore());
@@ -696,7 +697,9 @@ final class TextEdges {
     static void bitsBeyondBeats() {
         for (int beats = 4; beats <= 12; beats++) {
             int many = beats;
-            NightMarch x = Due.of("man 4095 1;man " + (1 << many - 1) + " 1;beats " + many + ";man " + ((1 << many) % 4096) + " 1;");
+            int lastBeat = 1 << many - 1;
+            int beyond = 4095 & ~(2 * lastBeat - 1);
+            NightMarch x = Due.of("man 4095 1;man " + lastBeat + " 1;beats " + many + ";man " + beyond + " 1;");
             Due.is("all of them", (1 << many) - 1, () -> x.man(0, 0));
             Due.is("the last one", 1 << many - 1, () -> x.man(1, 0));
             Due.is("none", 0, () -> x.man(2, 0));

@@ -2,7 +2,8 @@
 final class TreadEdges {
     private static final String EIGHT_ROWS = "row 0;row 1;row 2;row 3;row 4;row 5;row 6;row 7;";
     /** Each has a BEAT of his own, and is heard. */
-    private static final String OWN = "man 1 9;man 2 9;man 4 9;man 8 9;man 16 9;man 32 9;man 64 9;man 128 9;" + EIGHT_ROWS + "slack 0;";
+    private static final String OWN = "man 1 9;man 2 9;man 4 9;man 8 9;man 16 9;man 32 9;man 64 9;man 128 9;"
+        + EIGHT_ROWS + "slack 0;";
 
     private TreadEdges() {
     }
