@@ -141,6 +141,16 @@ final class TextEdges {
         Due.same("a man and a row", 0, Due.army(x, "man 255 3;row 0;"));
         Due.is("no rule is left", 255, () -> x.row(0, 1));
         Due.is("no HONOUR is left", 0, () -> x.man(0, 2));
+        Due.same("a longer rule", 0, Due.army(x, "beats 12;man 4095 1;row 0;slack 0;hears not 1;"));
+        Due.is("nothing is heard", 0, () -> x.row(0, 1));
+        Due.is("he must have no BEATS", 12, () -> x.reform(0, 0));
+        Due.same("a shorter rule, fewer BEATS", 0, Due.army(x, "beats 4;man 0 1;row 0;slack 0;hears 1;"));
+        Due.is("all is heard", 15, () -> x.row(0, 1));
+        Due.is("he must have all BEATS", 4, () -> x.reform(0, 0));
+        Due.same("all BEATS", 0, Due.army(x, "beats 12;man 0 1;row 0;slack 0;hears 1;"));
+        Due.is("he must have all twelve", 12, () -> x.reform(0, 0));
+        Due.same("four again", 0, Due.army(x, "beats 4;man 0 1;row 0;slack 0;hears 1;"));
+        Due.is("he must have all four", 4, () -> x.reform(0, 0));
     }
 
     @Edge(promise = 3, says = "all anew: 0, or the FAULT (all stays)")
